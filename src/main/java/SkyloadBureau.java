@@ -478,11 +478,8 @@ public final class SkyloadBureau {
         }
 
         int timeOver(int sector) {
-            return enters(sector) ? departure() + behindAt(sector) : NONE;
-        }
-
-        int plannedOver(int sector) {
-            return enters(sector) ? planned + behindAt(sector) : NONE;
+            int behind = behindAt(sector);
+            return behind != NONE ? departure() + behind : NONE;
         }
 
         boolean loads(int sector) {
@@ -502,9 +499,13 @@ public final class SkyloadBureau {
             return state == WAITING && !isExempt;
         }
 
-        /** The time by which the flight stands in the line of a regulation, if it stands there. */
+        /** The time over a sector by which a regulation lines the flight up: the planned one, till it is gone. */
         int lineTime(int sector) {
-            return state == GONE ? timeOver(sector) : plannedOver(sector);
+            int behind = behindAt(sector);
+            if (behind == NONE) {
+                return NONE;
+            }
+            return (state == GONE ? wentAt : planned) + behind;
         }
 
         void loseSlotTime() {
@@ -738,7 +739,9 @@ public final class SkyloadBureau {
             int slot = 0;
             for (int place = 0; place < line.count; place++) {
                 int time = line.timeAt(place);
-                slot = firstFree(slot, time, regulation);
+                while (slot < slotCount && (regulation.slotEnd(slot) <= time || fixed.hasGiven(slot))) {
+                    slot++;
+                }
                 if (slot < slotCount) {
                     line.give(place, slot, Math.max(time, regulation.slotBegin(slot)));
                     slot++;
@@ -748,14 +751,6 @@ public final class SkyloadBureau {
                 }
             }
             return without;
-        }
-
-        private int firstFree(int firstSlot, int time, Regulation regulation) {
-            int slot = firstSlot;
-            while (slot < slotCount && (regulation.slotEnd(slot) <= time || fixed.hasGiven(slot))) {
-                slot++;
-            }
-            return slot;
         }
 
         /** The penalty of a flight, found by going through the slots and not through the flights. */

@@ -48,6 +48,11 @@ final class Check {
         System.out.println(text);
     }
 
+    static boolean isThrownByTheProgram(RuntimeException thrown) {
+        StackTraceElement[] calls = thrown.getStackTrace();
+        return calls.length > 0 && calls[0].getClassName().equals("SkyloadBureau");
+    }
+
     /** The class must be the very one: ArrayIndexOutOfBoundsException, say, is the machine's own. */
     private static void throwing(String what, Class<?> due, Runnable call) {
         asked++;
@@ -56,6 +61,8 @@ final class Check {
         } catch (RuntimeException thrown) {
             if (thrown.getClass() != due) {
                 fail(what + " throws " + thrown.getClass().getName() + ", due is " + due.getName());
+            } else if (!isThrownByTheProgram(thrown)) {
+                fail(what + " throws out of the library, not by the program's own throw");
             }
             return;
         }

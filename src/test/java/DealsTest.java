@@ -178,6 +178,8 @@ public final class DealsTest {
         bureau.swap(1, 2);
         dealt("just at the planned time", bureau, 2, 100, 0);
         bureau.swap(1, 2);
+        bureau.swap(2, 1);
+        dealt("the first one just at the planned time", bureau, 2, 100, 0);
         SkyloadBureau later = withTimesOver(100, 100, 111);
         later.regulation(0, 100, 160, 6);
         later.deal(true);

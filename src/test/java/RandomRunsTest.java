@@ -95,7 +95,7 @@ public final class RandomRunsTest {
     }
 
     private boolean same(String call, IntSupplier of, IntSupplier due) {
-        String got = answer(of);
+        String got = answer(() -> byTheProgram(of));
         String want = answer(due);
         answered += want.startsWith("throws") ? 0 : 1;
         rows.add(call + " answered " + got + ", due is " + want);
@@ -110,6 +110,17 @@ public final class RandomRunsTest {
             return Integer.toString(call.getAsInt());
         } catch (RuntimeException thrown) {
             return "throws." + thrown.getClass().getName();
+        }
+    }
+
+    private static int byTheProgram(IntSupplier call) {
+        try {
+            return call.getAsInt();
+        } catch (RuntimeException thrown) {
+            if (!Check.isThrownByTheProgram(thrown)) {
+                throw new AssertionError("thrown by the machine or the library", thrown);
+            }
+            throw thrown;
         }
     }
 

@@ -14,6 +14,7 @@ public final class RegulationsTest {
         slotsBeginByTheRate();
         slotRefuses();
         penaltyByFirstSlots();
+        penaltyBySlotsThatEndBehind();
         fixedOnesTakeFirst();
         penaltyRefuses();
         dueIsTheGreatest();
@@ -224,6 +225,27 @@ public final class RegulationsTest {
             Check.equal("16 to the end, of " + i, bureau.penalty(i, 0), fewer[i]);
             bothDues(bureau, i, Math.max(0, fewer[i]));
         }
+    }
+
+    private static void penaltyBySlotsThatEndBehind() {
+        SkyloadBureau bureau = withTimesOver(110, 110, 135, 135, 159);
+        bureau.regulation(0, 100, 160, 6);
+        int[] penalties = {0, 10, 0, 5, 0};
+        for (int i = 0; i < penalties.length; i++) {
+            Check.equal("16 slots that end behind, of " + i, bureau.penalty(i, 0), penalties[i]);
+            bothDues(bureau, i, penalties[i]);
+        }
+        Check.equal("16 free slots", bureau.regulationIs(0, 1), 1);
+        SkyloadBureau fixed = withTimesOver(110, 120, 159, 159);
+        fixed.regulation(0, 100, 160, 6);
+        fixed.exempt(1, true);
+        fixed.exempt(2, true);
+        bothDues(fixed, 0, 0);
+        Check.equal("16 behind a fixed one in the last slot", fixed.penalty(3, 0), 1);
+        bothDues(fixed, 3, 1);
+        fixed.message(0, 1, SkyloadBureau.REPLAN, 110);
+        Check.equal("16 behind a fixed one at its slot's beginning", fixed.penalty(0, 0), 10);
+        bothDues(fixed, 0, 10);
     }
 
     private static void fixedOnesTakeFirst() {
