@@ -54,7 +54,7 @@ final class Check {
     }
 
     /** The class must be the very one: ArrayIndexOutOfBoundsException, say, is the machine's own. */
-    private static void throwing(String what, Class<?> due, Runnable call) {
+    static void throwing(String what, Class<?> due, Runnable call) {
         asked++;
         try {
             call.run();
