@@ -1,5 +1,6 @@
 import java.lang.reflect.Method;
 import java.util.TreeSet;
+import java.util.function.IntUnaryOperator;
 
 /**
  * For each promise an ordinary run of calls, on one new bureau. The answers are reckoned by hand from the document's
@@ -33,11 +34,15 @@ public final class OrdinaryRunsTest {
         }
     }
 
-    /** What flightIs answers to 0 and what follows. */
-    private static void flightIs(String what, SkyloadBureau bureau, int flight, int... due) {
+    /** What is answered to 0, 1 and what follows. */
+    private static void each(String what, IntUnaryOperator asked, int... due) {
         for (int i = 0; i < due.length; i++) {
-            Edges.equal(what + ", flightIs(" + flight + ", " + i + ")", bureau.flightIs(flight, i), due[i]);
+            Edges.equal(what + " of " + i, asked.applyAsInt(i), due[i]);
         }
+    }
+
+    private static void flightIs(String what, SkyloadBureau bureau, int flight, int... due) {
+        each(what + ", flight " + flight, i -> bureau.flightIs(flight, i), due);
     }
 
     private static void slotTime(String what, SkyloadBureau bureau, int flight, int due, int ruling) {
@@ -46,16 +51,11 @@ public final class OrdinaryRunsTest {
     }
 
     private static void regulationIs(String what, SkyloadBureau bureau, int regulation, int... due) {
-        for (int i = 0; i < due.length; i++) {
-            Edges.equal(what + ", regulationIs(" + regulation + ", " + i + ")",
-                bureau.regulationIs(regulation, i), due[i]);
-        }
+        each(what + ", regulation " + regulation, i -> bureau.regulationIs(regulation, i), due);
     }
 
     private static void slots(SkyloadBureau bureau, int regulation, int... due) {
-        for (int i = 0; i < due.length; i++) {
-            Edges.equal("slot(" + regulation + ", " + i + ")", bureau.slot(regulation, i), due[i]);
-        }
+        each("slot of " + regulation, i -> bureau.slot(regulation, i), due);
     }
 
     /** A flight of a company that enters just one sector. */
@@ -251,10 +251,7 @@ public final class OrdinaryRunsTest {
         SkyloadBureau bureau = fiveOverSector4();
         // They are inside from 100 to 110, 105 to 120, 110 to 111, 110 to 140 and 130 to 135.
         int[] minutes = {99, 100, 104, 105, 109, 110, 111, 119, 120, 130, 134, 135, 139, 140};
-        int[] inside = {0, 1, 1, 2, 2, 3, 2, 2, 1, 2, 2, 1, 1, 0};
-        for (int i = 0; i < minutes.length; i++) {
-            Edges.equal("inside at " + minutes[i], bureau.inside(4, minutes[i]), inside[i]);
-        }
+        each("by minutes", i -> bureau.inside(4, minutes[i]), 0, 1, 1, 2, 2, 3, 2, 2, 1, 2, 2, 1, 1, 0);
         bureau.message(3, 1, CANCEL, 0);
         Edges.equal("one is cancelled", bureau.inside(4, 139), 0);
         bureau.message(0, 1, GO, 125);
@@ -265,10 +262,7 @@ public final class OrdinaryRunsTest {
         SkyloadBureau bureau = fiveOverSector4();
         // Over the sector at 100, 105, 110, 110 and 130: both at 110; 105 too, from 5 minutes behind; and so on.
         int[] widths = {1, 5, 6, 10, 11, 21, 25, 26, 30, 31, 240};
-        int[] peaks = {2, 2, 3, 3, 4, 4, 4, 4, 4, 5, 5};
-        for (int i = 0; i < widths.length; i++) {
-            Edges.equal("of " + widths[i] + " minutes", peak(bureau, anew, widths[i]), peaks[i]);
-        }
+        each("by widths", i -> peak(bureau, anew, widths[i]), 2, 2, 3, 3, 4, 4, 4, 4, 4, 5, 5);
         bureau.message(2, 1, CANCEL, 0);
         Edges.equal("one at 110 is cancelled", peak(bureau, anew, 1), 1);
         // It goes 14 minutes late and is over the sector at 114: 105, 110, 114 within ten minutes.
@@ -365,6 +359,29 @@ public final class OrdinaryRunsTest {
         regulationIs("ended", bureau, 0, 0, 0, 0, 0, 0, 9, 22);
     }
 
+    private static void p14_fixedOnesWithoutASlot() {
+        SkyloadBureau bureau = new SkyloadBureau();
+        int[] times = {605, 615, 600, 618};
+        for (int time : times) {
+            over(bureau, 0, time - 10, 1, 10, 20);
+        }
+        bureau.exempt(0, true);
+        bureau.exempt(1, true);
+        bureau.message(3, 1, GO, 609);
+        // The slots are 600-610 and 610-620: the exempt ones take them, for the one at 619 and the listed one, planned
+        // over the sector at 600, there is none.
+        bureau.regulation(1, 600, 620, 6);
+        regulationIs("dealt", bureau, 0, 2, 0, 3, 1, 1, 6, 0);
+        Edges.equal("it waits for the end", bureau.penalty(2, 0), 20);
+        // By the rate 12 the slots are 600-605, 605-610, 610-615 and 615-620: the one at 605 takes the second slot, the
+        // one at 615 the fourth, the one at 619 none, the listed one the first.
+        bureau.rate(0, 12);
+        regulationIs("dealt by 12", bureau, 0, 4, 1, 3, 1, 0, 12, 0);
+        Edges.equal("it waits no more", bureau.penalty(2, 0), 0);
+        bureau.rate(0, 0);
+        regulationIs("dealt by 0", bureau, 0, 0, 0, 3, 1, 1, 0, 0);
+    }
+
     private static void p15_slotsOfUnevenRates() {
         SkyloadBureau bureau = new SkyloadBureau();
         // 60 k / 7 is 0, 8, 17, 25, 34 and 42, rounded down.
@@ -389,47 +406,52 @@ public final class OrdinaryRunsTest {
         // 600-606 and 613-620. Listed are 1 at 601, 3 at 603, 0 and 4 at 612, 8 at 637 and 6 at 638, in this order.
         // 1 takes 606, so 5 minutes; 3 takes 620, so 17; 0 takes 626, so 14; 4 takes 633, so 21; for 8 and 6 there
         // is none left: the end, 640, is 3 and 2 minutes behind them. 7 is over the sector just at the end.
-        int[] due = {14, 5, NONE, 17, 21, NONE, 2, NONE, 3, NONE};
-        for (int flight = 0; flight < due.length; flight++) {
-            Edges.equal("penalty of " + flight, bureau.penalty(flight, 0), due[flight]);
-        }
+        each("penalty", flight -> bureau.penalty(flight, 0), 14, 5, NONE, 17, 21, NONE, 2, NONE, 3, NONE);
         Edges.equal("all due", bureau.allDue(), 14 + 5 + 17 + 21 + 2 + 3);
         // Without the exempt one the flight 1 is in the slot 600-606 at once, 3 takes 606, 2 620, 0 626, 4 633.
         bureau.exempt(2, false);
-        int[] dueWithout = {14, 0, 15, 3, 21, NONE, 2, NONE, 3, NONE};
-        for (int flight = 0; flight < dueWithout.length; flight++) {
-            Edges.equal("penalty of " + flight + " then", bureau.penalty(flight, 0), dueWithout[flight]);
+        each("penalty then", flight -> bureau.penalty(flight, 0), 14, 0, 15, 3, 21, NONE, 2, NONE, 3, NONE);
+    }
+
+    private static void p16_p17_p18_flightsJustAsASlotEnds() {
+        SkyloadBureau bureau = new SkyloadBureau();
+        for (int i = 0; i < 3; i++) {
+            over(bureau, 0, 590, 1, 20, 20);
         }
+        bureau.regulation(1, 600, 640, 6);
+        // 600-610 ends as they are over the sector, at 610: they take 610, 620 and 630.
+        each("penalty", flight -> bureau.penalty(flight, 0), 0, 10, 20);
+        each("due", bureau::due, 0, 10, 20);
+        each("dueAnew", bureau::dueAnew, 0, 10, 20);
+        Edges.equal("the slot 600 stays free", bureau.regulationIs(0, 1), 1);
     }
 
     private static void p17_duesByThreeRegulations() {
         SkyloadBureau bureau = fourUnderThreeRegulations();
-        int[] due = {0, 15, 19, 10};
-        for (int flight = 0; flight < due.length; flight++) {
-            Edges.equal("due of " + flight, bureau.due(flight), due[flight]);
-        }
+        each("due", bureau::due, 0, 15, 19, 10);
         bureau.end(1);
-        int[] dueThen = {0, 10, 18, 10};
-        for (int flight = 0; flight < dueThen.length; flight++) {
-            Edges.equal("due of " + flight + " then", bureau.due(flight), dueThen[flight]);
-        }
+        each("due then", bureau::due, 0, 10, 18, 10);
         bureau.message(1, 1, GO, 300);
         Edges.equal("one that is gone is due nothing", bureau.due(1), 0);
     }
 
     private static void p18_duesFoundBySlots() {
         SkyloadBureau bureau = fourUnderThreeRegulations();
-        int[] due = {0, 15, 19, 10};
-        for (int flight = 0; flight < due.length; flight++) {
-            Edges.equal("dueAnew of " + flight, bureau.dueAnew(flight), due[flight]);
-        }
+        each("dueAnew", bureau::dueAnew, 0, 15, 19, 10);
         // The exempt one takes the slots 310 and 320 (of sector 1) first. Flight 0 then gets 320 and 340: 10 and 15;
         // flight 2 gets 330 and none, as before; flight 3 gets 340 and none, as before.
         bureau.exempt(1, true);
-        int[] dueThen = {15, 0, 19, 10};
-        for (int flight = 0; flight < dueThen.length; flight++) {
-            Edges.equal("dueAnew of " + flight + " then", bureau.dueAnew(flight), dueThen[flight]);
-        }
+        each("dueAnew then", bureau::dueAnew, 15, 0, 19, 10);
+        // Two exempt ones take 310 and 320, and both slots of sector 1: flight 2 gets 330, and for both that are left
+        // there is none in sector 1. Without regulation 2 the flight 3 waits by regulation 0 for the slot 340.
+        bureau.exempt(0, true);
+        bureau.end(2);
+        each("dueAnew at last", bureau::dueAnew, 0, 0, 19, 10);
+        // One that went at 325 is over sector 0 at 335 and takes 330: flight 2 gets 320, as just one is exempt.
+        bureau.exempt(0, false);
+        bureau.message(0, 1, GO, 325);
+        bureau.end(1);
+        each("dueAnew as one is gone", bureau::dueAnew, 0, 0, 8, 10);
     }
 
     private static void p19_allDuesTogether() {
@@ -493,6 +515,24 @@ public final class OrdinaryRunsTest {
         }
         Edges.equal("all ended", bureau.deal(false), 0);
         slotTime("all ended", bureau, 2, NONE, NONE);
+    }
+
+    private static void p21_theRegulationThatIsDueNowRules() {
+        SkyloadBureau bureau = new SkyloadBureau();
+        over(bureau, 0, 600, 1, 10, 20);
+        bureau.regulation(1, 600, 630, 0);
+        Edges.equal("dealt", bureau.deal(false), 20);
+        slotTime("dealt", bureau, 0, 620, 0);
+        bureau.end(0);
+        bureau.regulation(1, 600, 635, 0);
+        // 625 is later than 620: it keeps that, and its ended ruling.
+        Edges.equal("not worsened", bureau.deal(false), 20);
+        slotTime("not worsened", bureau, 0, 620, 0);
+        bureau.end(1);
+        bureau.regulation(1, 600, 630, 0);
+        // 620 is not later than 620: the regulation that is due now rules.
+        Edges.equal("just as late", bureau.deal(false), 20);
+        slotTime("just as late", bureau, 0, 620, 2);
     }
 
     private static void p22_twoFlightsOfOneCompanySwap() {
@@ -563,13 +603,9 @@ public final class OrdinaryRunsTest {
         bureau.message(3, 1, GO, 630);
         bureau.message(4, 1, CANCEL, 0);
         // The first one had no slot time; 607 is 5 ahead of 612, 635 is 11 behind 624, 630 is 6 ahead of 636.
-        int[][] due = {{12, 0, 2}, {24 + 36, 2, 2}, {0, 0, 0}, {0, 0, 0}};
-        for (int company = 0; company < due.length; company++) {
-            for (int what = 0; what < 3; what++) {
-                Edges.equal("companyIs(" + company + ", " + what + ")",
-                    bureau.companyIs(company, what), due[company][what]);
-            }
-        }
+        each("charged", company -> bureau.companyIs(company, 0), 12, 24 + 36, 0, 0);
+        each("out of window", company -> bureau.companyIs(company, 1), 0, 2, 0, 0);
+        each("gone", company -> bureau.companyIs(company, 2), 2, 2, 0, 0);
         Edges.equal("the same is charged to the regulation", bureau.regulationIs(0, 6), 72);
     }
 
